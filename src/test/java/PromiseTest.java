@@ -202,7 +202,8 @@ public final class PromiseTest {
     private static final String[] TEXTS = {
         RULE, "throws9;comes1;pays1;", "\n throws 9999;comes full;pays number;  \n", "^", "  \n^", "^comes 1;", "throws^",
         "throws 1; ^pays 1;", "throws 1;comes 1;pays 1^", "throws 1;comes 1;pays 1  ^", RULE + "^;", RULE + " ^throws",
-        "throws ^12345;", "throws ^00001;", "throws 1;comes ^99999", "throws ^fool;", "throws ^ful;", "^throwsfull;",
+        "throws ^12345;", "throws ^00001;", "throws 1;comes ^99999", "throws ^fool;", "throws ^ful;", "throws ^gull;", "throws ^fall;", "throws ^fulk;", "^shrows 1;", "throws 1 ^nr 2;", "throws ^got 1;",
+        "throws ^fullz;", "throws ^zfull;", "throws ^afull;", "throws ^fulla;", "^throwsfull;",
         "throws ^Full;", "throws 1 ^full;", "throws 1 ^2;", "throws 12^ab;", "throws ^;", "throws 1+^;", "throws ^+1;",
         "throws 1*^*2;", "throws 1+^not 1;", "throws -^not 1;", "throws 1<^not 2;", "throws 1 ^not 2;",
         "throws 1<2^<3;", "throws 1=2^=3;", "throws 1<2^=3;", "throws (1<2)<3;comes 1;pays 1;", "throws ^or 1;",
@@ -236,6 +237,19 @@ public final class PromiseTest {
         due(8, "the tape stays", x.count(4), 1);
         due(8, "six texts", x.count(3), 6);
         longest();
+        unlikeTapes();
+    }
+
+    /** What stood on the tape before does not count. */
+    private static void unlikeTapes() {
+        SkipOfEightYards x = new SkipOfEightYards();
+        String[] before = {"throwsx", "throws 1234567", "throws 1;comes 1;pays 1;;;", "throws     ;"};
+        String[] then = {"throws", "throws 1234", "throws 1;comes 1;pays 1", "throws  "};
+        for (int i = 0; i < before.length; i++) {
+            due(8, before[i], read(x, before[i]) <= -100 ? 1 : 0, 1);
+            due(8, then[i] + " behind " + before[i], read(x, then[i]), -100 - then[i].length());
+        }
+        due(8, "after faults", read(x, RULE), 1);
     }
 
     private static void longest() {
@@ -427,7 +441,7 @@ public final class PromiseTest {
         x.set(4, 0, 18);
         x.neighbour(2, 0);
         rule(x, "throws 1+8*(night=3);comes 1;pays 0;");
-        // in night 3 the thief takes what the neighbour throws; covered, nine more: then it fits in night 4
+        // in night 3 the thief takes 9 and the neighbour throws 9, unless it is covered: then 82 fit in night 4
         due(13, "cover(2, 0)", x.cover(2, 0), 1);
         due(13, "cover(2, 1)", x.cover(2, 1), 0);
         due(13, "NIGHT", x.told(0, 0), 3);
@@ -473,6 +487,13 @@ public final class PromiseTest {
         for (int thing = 0; thing < 5; thing++) x.set(5, thing, 9);
         due(15, "three nights later", x.best(2), 3);
         due(15, "best(3)", x.best(3), 80);
+        x.set(5, 4, 13);
+        x.set(1, 0, 999);
+        due(15, "seven nights later", x.best(2), 7);
+        due(15, "best(3)", x.best(3), 0);
+        x.set(5, 4, 14);
+        due(15, "that is too late too", x.best(2), 3);
+        x.set(1, 0, 100);
         x.load(0);
         due(15, "without what is in it", x.best(0), 10);
         due(15, "best(1)", x.best(1), 50);
@@ -504,6 +525,7 @@ public final class PromiseTest {
         due(16, "share(2)", x.share(2), NO);
         due(16, "share(-1)", x.share(-1), NO);
         x.set(4, 0, 0);
+        x.set(3, 0, 1);
         due(16, "share(0)", x.share(0), 1);
         due(16, "share(1)", x.share(1), 1);
     }
@@ -563,8 +585,16 @@ public final class PromiseTest {
         due(17, "mines, asked", x.tells(2, 0, 3), 20);
         due(17, "which", x.tells(2, 0, 4), 0);
         x.set(3, 0, 9);
+        read(x, "throws 50-mine;comes 1;pays 1;");
+        x.force(5);
+        row(x, 2, 2, 50);
+        due(17, "were it 100", x.tells(2, 0, 3), 0);
+        due(17, "were it 100", x.tells(2, 0, 4), -1);
+        row(x, 2, 2, 49);
+        due(17, "were it 99", x.tells(2, 0, 4), 99);
+        x.force(3);
         row(x, 2, 2);
-        int[] empty = {-1, 63, 1023, 100, 0, 31, 7, 3};
+        int[] empty = {-1, 63, 1023, 100, 0, 63, 7, 3};
         for (int what = 0; what < 8; what++) due(17, "empty, " + what, x.tells(2, 0, what), empty[what]);
         due(17, "nothing truly", x.told(0, 3) * 1000 + x.told(0, 0) * 10 + x.count(5), 9023);
     }
@@ -588,6 +618,13 @@ public final class PromiseTest {
         row(x, 1, 0, -18, 0, -18, 0);
         due(18, "by hand", x.tells(1, 0, 0), -1);
         due(18, "NIGHT", x.told(0, 0), 0);
+        x.neighbour(0, 0);
+        x.set(0, 0, 998);
+        rule(x, "throws night-990;comes 1;pays 1;");
+        due(18, "film(3, 1, 4)", x.film(3, 1, 4), 4);
+        row(x, 1, 0, 8, 9, 10, 11);
+        due(18, "as by hand", x.tells(1, 1, 0), -1);
+        due(18, "as by film", x.tells(3, 1, 0), -1);
         due(18, "film(2, 0, 0)", x.film(2, 0, 0), 0);
         due(18, "a row of none", x.cell(2, 0, 0), -12);
     }
@@ -630,6 +667,11 @@ public final class PromiseTest {
             due(20, "chance(5, " + m + ", 92, 0)", x.chance(5, m, 92, 0), 1);
             due(20, "chance(5, " + m + ", 999, 1)", x.chance(5, m, 999, 1), 1);
         }
+        SkipOfEightYards y = new SkipOfEightYards();
+        y.thing(1, 4);
+        due(20, "ready in the fifth night", y.chance(0, 7, 0, 0), 1);
+        y.set(5, 0, 5);
+        due(20, "ready in the sixth night", y.chance(0, 7, 0, 0), 0);
         x.set(1, 0, 0);
         due(20, "none of them", x.chance(Integer.MAX_VALUE, 20, 91, 0), 0);
         due(20, "none of them", x.chance(Integer.MAX_VALUE, 20, 91, 1), 1);
@@ -801,6 +843,7 @@ public final class PromiseTest {
         due(27, "the asker", x.told(1, 10) * 10 + x.told(1, 6), 17);
         due(27, "street(0, 2, 1, 5): it ends", x.street(0, 2, 1, 5), -12);
         due(27, "what stood ahead came", x.count(0), 4);
+        due(27, "its last two, none such", x.street(0, 2, 8, 1), 0);
         due(27, "only one has room", x.street(0, 2, 1, 4), 1);
         due(27, "five", x.count(0), 5);
         due(27, "nobody has room", x.street(0, 2, 1, 4), 0);
