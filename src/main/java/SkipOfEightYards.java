@@ -10,7 +10,7 @@ public final class SkipOfEightYards {
     private static final int SHEETS = 4, MOST_CELLS = 40, MOST_TOLD = 20;
     private static final int MOST_NIGHTS = 30, MOST_TRIED = 7, CHANCE_NIGHTS = 5, MOST_SEEDS = 20;
     private static final int LAST_NIGHT = 999, MOST_AMOUNT = 999, MOST_READY = 99, MOST_BULK = 99;
-    private static final int MOST_NUMBER = 9, MOST_THROWN = 99, MOST_ANSWER = 9, MINES = 100;
+    private static final int MOST_NUMBER = 9, MOST_THROWN = 99, MOST_PAID = 9, MINES = 100;
     private static final int ALL_COVERED = 1073741823;
 
     private static final int NEIGHBOUR = 0, ASKER = 1, THIEF = 2, FRIEND = 3, DEALER = 4, GHOST = 5;
@@ -663,7 +663,7 @@ public final class SkipOfEightYards {
             }
         }
 
-        /** What a part of the rule tells of one, within its bounds. */
+        /** What a part of the rule tells of one, within its bounds; that it comes has none. */
         private int ruled(int one, int part) {
             int[] names = texts.names;
             names[0] = full();
@@ -673,7 +673,11 @@ public final class SkipOfEightYards {
             names[4] = isAsked(one) ? 1 : 0;
             names[5] = mine;
             int v = texts.value(rule, part);
-            return part == THROWS_PART ? bounded(v, -MOST_THROWN, MOST_THROWN) : bounded(v, 0, MOST_ANSWER);
+            switch (part) {
+                case THROWS_PART: return bounded(v, -MOST_THROWN, MOST_THROWN);
+                case PAYS_PART: return bounded(v, 0, MOST_PAID);
+                default: return v;
+            }
         }
 
         private static int bounded(int v, int least, int most) {

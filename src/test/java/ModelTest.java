@@ -254,7 +254,7 @@ public final class ModelTest {
 
         int text(Person p, int part) {
             int e = texts.get(rule)[part].of(this, p);
-            return part == 0 ? Math.max(-99, Math.min(99, e)) : Math.max(0, Math.min(9, e));
+            return part == 0 ? Math.max(-99, Math.min(99, e)) : part == 2 ? Math.max(0, Math.min(9, e)) : e;
         }
 
         int full() {

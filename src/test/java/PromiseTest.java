@@ -136,8 +136,58 @@ public final class PromiseTest {
         x.set(2, 0, 0);
         x.set(0, 0, 2);
         x.set(4, 0, 0);
-        shows(x, "below 0", new int[] {-70, -99, 70, -99, 99}, new int[] {0, 0, 70, 0, 99}, new int[] {0, 0, 0, 1, 0});
+        shows(x, "below 0", new int[] {-70, -99, 70, -99, 99}, new int[] {0, 0, 70, 0, 99}, new int[] {1, 1, 1, 1, 1});
+        x.set(2, 0, 1);
+        shows(x, "below 0, lit", new int[] {-70, -99, 70, -99, 99}, new int[] {0, 0, 70, 0, 99}, new int[] {1, 1, 0, 1, 0});
+        x.set(7, 1, 0);
+        due(5, "below 0, an asker who wasn't asked", x.told(1, 13), 0);
         ghosts();
+        comesUnbound();
+    }
+
+    /** What a comes tells has no bound: all but 0 is yes. */
+    private static void comesUnbound() {
+        String[] yes = {"-1", "0-1", "10", "-9999", "9999*9999*9999", "night-1", "0-9-1", "(0-9999*2)*9999*9999", "-(not 0)"};
+        String[] no = {"0", "-0", "1-1", "night", "-night", "8192*8192*8192"};
+        for (String e : yes) due(5, "comes " + e, comer("comes " + e).told(0, 13), 1);
+        for (String e : no) due(5, "comes " + e, comer("comes " + e).told(0, 13), 0);
+    }
+
+    /** A skip with one neighbour, who was asked, and a text by which one throws 9 and pays 1. */
+    private static SkipOfEightYards comer(String part) {
+        SkipOfEightYards x = new SkipOfEightYards();
+        x.neighbour(0, 0);
+        x.set(7, 0, 1);
+        rule(x, "throws 9;" + part + ";pays 1;");
+        return x;
+    }
+
+    /** Wherever it is asked whether one comes, a number below 0 is yes, as 1 is, and 0 is no. */
+    private static void comesBelow0() {
+        for (int told = -1; told <= 1; told++) {
+            SkipOfEightYards x = comer("comes " + (told < 0 ? "-" : "") + Math.abs(told));
+            int yes = told == 0 ? 0 : 1;
+            String when = "comes " + told + ": ";
+            due(5, when + "told(0, 13)", x.told(0, 13), yes);
+            due(12, when + "run(3, 0, 2)", x.run(3, 0, 2), 27 * yes);
+            due(12, when + "run(3, 2, 3)", x.run(3, 2, 3), 18 * yes);
+            x.thing(82, 3);
+            due(13, when + "cover(4, 0)", x.cover(4, 0), yes);
+            due(14, when + "ask(1, 0)", x.ask(1, 0), yes);
+            due(14, when + "ask(1, 2)", x.ask(1, 2), 9 * yes);
+            due(15, when + "best(2)", x.best(2), yes);
+            due(15, when + "best(3)", x.best(3), 0);
+            x.set(5, 0, 1);
+            x.set(1, 0, 90);
+            for (int seed = 0; seed < 9; seed++) {
+                int z = seed * 1103515245 + 12345;
+                boolean fits = told == 0 || (z >>> 9 & 1) == 1;
+                due(19, when + "drawn(" + seed + ", 2)", x.drawn(seed, 2), fits ? 0 : 82);
+                due(20, when + "chance(" + seed + ", 1, 81, 0)", x.chance(seed, 1, 81, 0), fits ? 1 : 0);
+            }
+            due(10, when + "night(0)", x.night(0), 9 * yes);
+            due(10, when + "THEIRS", x.told(0, 4), 9 * yes);
+        }
     }
 
     private static void shows(SkipOfEightYards x, String when, int[] open, int[] covered, int[] comes) {
@@ -878,6 +928,7 @@ public final class PromiseTest {
         thing();
         neighbour();
         told();
+        comesBelow0();
         pays();
         feed();
         text();
