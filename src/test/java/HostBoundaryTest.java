@@ -157,12 +157,14 @@ public final class HostBoundaryTest {
     }
 
     private static void copiesWithinOne() {
-        int[][] rows = {{0, 1, 3, 1, 1, 2, 3}, {1, 0, 3, 2, 3, 4, 4}, {0, 0, 4, 1, 2, 3, 4}, {0, 2, 2, 1, 2, 1, 2}, {3, 0, 1,
-            4, 2, 3, 4}, {0, 3, 1, 1, 2, 3, 1}};
+        int[][] rows = {
+            {0, 1, 3, 1, 1, 2, 3}, {1, 0, 3, 2, 3, 4, 4}, {0, 0, 4, 1, 2, 3, 4}, {0, 2, 2, 1, 2, 1, 2}, {3, 0, 1, 4, 2, 3, 4},
+            {0, 3, 1, 1, 2, 3, 1},
+        };
         for (int[] r : rows) {
             for (int sort = 0; sort < 3; sort++) {
                 int s = sort;
-                Boundary at = Boundary.at(26, "as they were, within one, of sort " + sort + ": " + r[0] + " to " + r[1] + ", " + r[2])
+                Boundary at = Boundary.at(26, "as they were, within one: " + r[0] + " to " + r[1] + ", " + r[2] + ", sort " + sort)
                     .furnished().given(x -> Boundary.row(x, 1, s, 1, 2, 3, 4))
                     .due(r[2], x -> x.copy(1, r[0], 1, r[1], r[2]));
                 holds(at, 1, sort, r[3], r[4], r[5], r[6]);

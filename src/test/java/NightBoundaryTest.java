@@ -294,6 +294,8 @@ public final class NightBoundaryTest {
     private static void most() {
         Boundary.at(15, "MOST: NONE").still(NONE, x -> x.best(4));
         Boundary.at(15, "MOST: 0, if nobody is").still(0, x -> x.best(5));
+        Boundary.at(15, "MOST: 0, if nobody is, also behind PACK and LATE").given(x -> x.thing(7, 99))
+            .due(7, x -> x.best(1)).due(0, x -> x.best(5)).due(7, x -> x.best(3)).due(0, x -> x.best(5)).due(NONE, x -> x.best(4));
         Boundary.at(15, "MOST: one alone, who takes").given(x -> x.neighbour(DEALER, 0)).still(0, x -> x.best(4))
             .still(-18, x -> x.best(5));
         Boundary.at(15, "MOST: all take, the first of like ones").given(x -> Boundary.neighbours(x, 4, 2, 2, 4))

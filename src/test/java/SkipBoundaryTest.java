@@ -27,7 +27,14 @@ public final class SkipBoundaryTest {
         }
         Boundary.at(1, "no IMAGE").due(-3, x -> x.back());
         Boundary.at(1, "an empty skip's nights").due(0, x -> x.run(30, 0, 3)).due(0, x -> x.night(0)).due(1, x -> x.told(0, 0));
+        Boundary.at(1, "at most 512 calls: the last").given(x -> manyNights(x, 510))
+            .due(0, x -> x.night(0)).due(511, x -> x.told(0, 0));
         Boundary.at(1, "another object's changes are not seen").given(x -> apart()).still(0, x -> x.count(0));
+    }
+
+    private static int manyNights(SkipOfEightYards x, int many) {
+        for (int i = 0; i < many; i++) x.night(i % 2);
+        return many;
     }
 
     private static long apart() {

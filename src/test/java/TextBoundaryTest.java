@@ -85,7 +85,8 @@ public final class TextBoundaryTest {
 
     private static void words() {
         String[] none = {"a", "z", "fulls", "ful", "throw", "comesx", "pay", "fullnumber", "notfull", "no", "nott", "o",
-            "orr", "an", "andd", "theirs", "size", "xfull", "throwscomes"};
+            "orr", "an", "andd", "theirs", "size", "xfull", "throwscomes",
+            "fullz", "zfull", "gull", "cumber", "might", "damp", "tasked", "nine", "br", "end", "hot", "fulk", "lamq", "mines"};
         for (String word : none) fault("a WORD that is neither KEY nor NAME", "throws ^" + word + ";comes 1;pays 1;");
         for (String name : new String[] {"full", "number", "night", "lamp", "asked", "mine"}) {
             sound("a NAME", "throws " + name + ";comes 1;pays 1;");
@@ -178,12 +179,36 @@ public final class TextBoundaryTest {
         sound("160 bytes", text + ";");
         fault("160 bytes, the last one missing", text + " ^");
         fault("160 bytes, the last one can't stand there", text + "^)");
+        StringBuilder digit = new StringBuilder("throws 1;comes 1;pays  1");
+        while (digit.length() < 160) digit.append("+1");
+        fault("160 bytes, the last one a digit", digit + "^");
+        digit.replace(155, 160, " full");
+        fault("160 bytes, the last one a letter", digit + "^");
         Boundary.at(8, "160 bytes: all of them count").given(x -> x.neighbour(0, 0)).given(x -> Boundary.rule(x, ones(70)))
             .due(70, x -> x.told(0, 11)).due(0, x -> x.count(4));
     }
 
+    /** What stood on the tape ahead of that does not count. */
+    private static void behindOthers() {
+        String[][] rows = {
+            {"throws 9999", "throws 1", "-108"}, {"throwsthrows", "throws", "-106"}, {"throws fullfull", "throws full", "-111"},
+            {SOUND + ")", "throws 9 ; comes 1 ; pays 1", "-127"}, {"throws 1;;;;;;;;", "throws 1", "-108"},
+            {SOUND + SOUND, SOUND, "1"},
+        };
+        for (String[] row : rows) {
+            Boundary.at(8, "THE TAPE is empty then: \"" + row[1] + "\" behind \"" + row[0] + "\"")
+                .due(1, x -> Boundary.read(x, row[0]) <= -100 ? 1 : 0).due(Integer.parseInt(row[2]), x -> Boundary.read(x, row[1]));
+        }
+        Boundary.at(8, "a TEXT of 160 bytes, a FAULT as long, and another TEXT").given(x -> x.neighbour(0, 0))
+            .given(x -> Boundary.rule(x, ones(70))).due(70, x -> x.told(0, 11))
+            .due(-258, x -> Boundary.read(x, ones(70).substring(0, 158) + "+;"))
+            .due(1, x -> Boundary.rule(x, "throws 3;comes 0;pays 1;")).due(3, x -> x.told(0, 11)).due(0, x -> x.told(0, 13))
+            .due(2, x -> Boundary.rule(x, ones(40))).due(40, x -> x.told(0, 11)).due(1, x -> x.told(0, 13))
+            .due(3, x -> x.force(1)).due(70, x -> x.told(0, 11));
+    }
+
     private static String ones(int many) {
-        StringBuilder text = new StringBuilder("throws1");
+        StringBuilder text = new StringBuilder("throws 1");
         for (int i = 1; i < many; i++) text.append("+1");
         return text.append(";comes1;pays1;").toString();
     }
@@ -293,6 +318,7 @@ public final class TextBoundaryTest {
         open();
         closed();
         longest();
+        behindOthers();
         howMany();
         wrapping();
         truth();
